@@ -14,7 +14,7 @@ public final class MatrixDesk {
     private static final int MOST = 6;
     private static final long LIMIT = 1000000000000000000L;
     private static final long BASE = 1000000000L;
-    private static final int DIGITS = 16;
+    private static final int DIGITS = 32;
     private static final int LETTERS = 256;
     private static final int MANY = 1000000;
     private static final int[] UNITS =
@@ -181,7 +181,7 @@ public final class MatrixDesk {
             rest.numbers[i].become(-wanted.number(i, 0));
         }
         stairs.settle(rest, 0);
-        if (!rest.isZero(source.rows)) {
+        if (rest.lead(source.rows) < source.rows) {
             return 0;
         }
         result.reset(source.columns, 1);
@@ -380,11 +380,12 @@ public final class MatrixDesk {
 
     /** Whether each row that the steps began with is made of whole multiples of the last rows. */
     private boolean stepsGoBack(Matrix source) {
+        int end = source.columns + source.rows;
         for (int i = 0; i < source.rows; i++) {
             Row rest = stairs.spareRow();
             stairs.load(rest, source, i, false);
             stairs.settle(rest, 0);
-            if (!rest.isZero(source.columns + source.rows)) {
+            if (rest.lead(end) < end) {
                 return false;
             }
         }
@@ -393,9 +394,9 @@ public final class MatrixDesk {
 
     private boolean stepsHaveUnitDeterminant(Matrix source) {
         minors.readSquare(stairs, source.columns, source.rows);
-        Whole determinant = minors.minor(all(source.rows), all(source.rows));
-        determinant.below = false;
-        return determinant.isOne();
+        sum.become(minors.minor(all(source.rows), all(source.rows)));
+        sum.below = false;
+        return sum.isOne();
     }
 
     private static final class Matrix {
@@ -518,14 +519,11 @@ public final class MatrixDesk {
             return false;
         }
 
-        /** Adds a times factor, a being another number and factor below BASE in size. */
-        void add(Whole a, long factor) {
-            if (a.length == 0 || factor == 0) {
-                return;
-            }
-            int top = Math.max(length, a.length + 1) + 1;
+        /** Adds another number, or takes it away if sign is -1. */
+        void add(Whole a, int sign) {
+            int top = Math.max(length, a.length) + 2;
             widen(top);
-            addLine(a, below == a.below ? factor : -factor, 0, top);
+            addLine(a, below == a.below ? sign : -sign, 0, top);
             straighten(top);
         }
 
@@ -581,8 +579,8 @@ public final class MatrixDesk {
             trim(top);
         }
 
+        /** Needs room for one digit more. */
         private void timesDigit(long digit) {
-            widen(length + 1);
             long carry = 0;
             for (int i = 0; i <= length; i++) {
                 carry += digits[i] * digit;
@@ -671,11 +669,12 @@ public final class MatrixDesk {
         private void divideLong(Whole number, Whole divisor, Whole answer) {
             int width = divisor.length;
             long scale = BASE / (divisor.digits[width - 1] + 1L);
-            scaled.clear();
-            scaled.add(divisor, scale);
+            scaled.become(divisor);
+            scaled.widen(width + 1);
+            scaled.timesDigit(scale);
+            number.widen(number.length + 2);
             number.timesDigit(scale);
             int first = number.length - width;
-            number.widen(number.length + 1);
             answer.widen(first + 1);
             for (int i = first; i >= 0; i--) {
                 long digit = guess(number, i + width);
@@ -875,25 +874,23 @@ public final class MatrixDesk {
             }
         }
 
-        /** The row is taken in as the last one of so many. */
+        /**
+         * The row is taken in as the last one of so many: along it, a minor comes from those of
+         * one row less, which are there already.
+         */
         private void takeRow(int row, int count, int within) {
             for (int set = 1; set <= within; set++) {
-                if ((set & ~within) == 0 && Integer.bitCount(set) == count) {
-                    expand(row, count, set);
+                if ((set & ~within) != 0 || Integer.bitCount(set) != count) {
+                    continue;
                 }
-            }
-        }
-
-        /** Along its last row, a minor comes from those of one row less, which are there already. */
-        private void expand(int row, int count, int set) {
-            Whole found = minorIn[set];
-            found.clear();
-            int sign = count % 2 == 1 ? 1 : -1;
-            for (int column = 0; column < columns; column++) {
-                int bit = 1 << column;
-                if ((set & bit) != 0) {
-                    found.addProduct(numbers[row * MOST + column], minorIn[set ^ bit], sign);
-                    sign = -sign;
+                minorIn[set].clear();
+                int sign = count % 2 == 1 ? 1 : -1;
+                for (int column = 0; column < columns; column++) {
+                    int bit = 1 << column;
+                    if ((set & bit) != 0) {
+                        minorIn[set].addProduct(numbers[row * MOST + column], minorIn[set ^ bit], sign);
+                        sign = -sign;
+                    }
                 }
             }
         }
@@ -930,14 +927,13 @@ public final class MatrixDesk {
             }
         }
 
-        /** Whether the first so many numbers are 0. */
-        boolean isZero(int count) {
-            for (int i = 0; i < count; i++) {
-                if (!numbers[i].isZero()) {
-                    return false;
-                }
+        /** The column of the first number that is not 0, or the end if all before it are 0. */
+        int lead(int end) {
+            int column = 0;
+            while (column < end && numbers[column].isZero()) {
+                column++;
             }
-            return true;
+            return column;
         }
     }
 
@@ -970,11 +966,18 @@ public final class MatrixDesk {
 
         void climb(Matrix source, boolean turned) {
             int height = turned ? source.columns : source.rows;
-            count = 0;
             width = source.rows + source.columns;
+            count = 0;
             for (int i = 0; i < height; i++) {
                 load(rows[count], source, i, turned);
-                takeSpare();
+                int place = 0;
+                while (place < count && leads[place] <= rows[count].lead(width)) {
+                    meet(place);
+                    settle(rows[place], place + 1);
+                    settle(rows[count], place + 1);
+                    place++;
+                }
+                keepSpare(place);
                 for (int above = count - 2; above >= 0; above--) {
                     settle(rows[above], above + 1);
                 }
@@ -1021,10 +1024,7 @@ public final class MatrixDesk {
         boolean isHermite(int height, int front) {
             int last = -1;
             for (int i = 0; i < height; i++) {
-                int lead = 0;
-                while (lead < front && number(i, lead).isZero()) {
-                    lead++;
-                }
+                int lead = rows[i].lead(front);
                 if (lead < front && (lead <= last || !isLead(i, lead))) {
                     return false;
                 }
@@ -1047,38 +1047,25 @@ public final class MatrixDesk {
             return true;
         }
 
-        private void takeSpare() {
-            int i = 0;
-            for (int column = 0; column < width; column++) {
-                boolean taken = i < count && leads[i] == column;
-                if (!rows[count].numbers[column].isZero()) {
-                    if (!taken) {
-                        keepSpare(i, column);
-                        return;
-                    }
-                    meet(i, column);
-                    settle(rows[i], i + 1);
-                    settle(rows[count], i + 1);
-                }
-                i += taken ? 1 : 0;
+        /** Goes Euclid's way with whole rows, until the spare row has a 0 in the column of the lead. */
+        private void meet(int place) {
+            int column = leads[place];
+            lower(rows[count], rows[place], column);
+            for (int step = 0; step < MANY && !rows[count].numbers[column].isZero(); step++) {
+                Row lesser = rows[count];
+                rows[count] = rows[place];
+                rows[place] = lesser;
+                lower(rows[count], rows[place], column);
             }
         }
 
-        /** Goes Euclid's way with whole rows, until the spare row has a 0 in the lead's column. */
-        private void meet(int i, int column) {
-            for (int step = 0; step < MANY; step++) {
-                lower(rows[count], rows[i], column);
-                if (rows[count].numbers[column].isZero()) {
-                    return;
-                }
-                Row rest = rows[count];
-                rows[count] = rows[i];
-                rows[i] = rest;
-            }
-        }
-
-        private void keepSpare(int place, int lead) {
+        /** Puts the spare row where its lead belongs; with the diagonal it is never 0 alone. */
+        private void keepSpare(int place) {
             Row kept = rows[count];
+            int lead = kept.lead(width);
+            if (lead == width) {
+                return;
+            }
             if (kept.numbers[lead].below) {
                 kept.turnSigns();
             }

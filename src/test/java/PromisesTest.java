@@ -229,8 +229,8 @@ public final class PromisesTest {
         due.matrix("10: large changes nothing", y, 4, new long[][] {{1, 1}, {0, TOP - 1}});
         due.number("10: leads at the edge", y.hermite(4, 2), 2);
         due.matrix("10: leads at the edge", y, 4, new long[][] {{TOP, 0}, {0, TOP}});
-        due.number("10: as large as the lead is too large", y.hermite(4, 3), 2);
-        due.matrix("10: as large as the lead is too large", y, 4, new long[][] {{1, 0}, {0, TOP}});
+        due.number("10: above a lead of the same size", y.hermite(4, 3), 2);
+        due.matrix("10: above a lead of the same size", y, 4, new long[][] {{1, 0}, {0, TOP}});
         MatrixDesk z = with(new long[][] {{1, 2, -3}, {2, 4, -7}});
         due.number("10: behind the last lead any sign", z.hermite(0, 0), 2);
         due.matrix("10: behind the last lead any sign", z, 0, new long[][] {{1, 2, 0}, {0, 0, 1}});
