@@ -399,6 +399,7 @@ public final class MatrixDesk {
         return sum.isOne();
     }
 
+    /** Up to six rows and columns of numbers below 10^18 in size. */
     private static final class Matrix {
         private final long[] numbers;
         private int rows;
@@ -443,7 +444,7 @@ public final class MatrixDesk {
 
     /** A whole number of any size that is changed in place, so that no call makes new ones. */
     private static final class Whole {
-        /** Added to what may lie below 0 so that / rounds down; LIFT_UP is what it adds to the carry. */
+        /** LIFT is added where a sum may lie below 0, so that / rounds down; a carry has LIFT_UP of it. */
         private static final long LIFT_UP = BASE + 2;
         private static final long LIFT = LIFT_UP * BASE;
 
@@ -507,6 +508,7 @@ public final class MatrixDesk {
             below = length > 0 && !below;
         }
 
+        /** By size, whatever the signs are. */
         boolean isSmallerThan(Whole other) {
             if (length != other.length) {
                 return length < other.length;
@@ -579,7 +581,7 @@ public final class MatrixDesk {
             trim(top);
         }
 
-        /** Needs room for one digit more. */
+        /** There must be room for one digit more. */
         private void timesDigit(long digit) {
             long carry = 0;
             for (int i = 0; i <= length; i++) {
@@ -984,7 +986,7 @@ public final class MatrixDesk {
             }
         }
 
-        /** The row becomes row i of the matrix, or column i if it is turned, with the diagonal's. */
+        /** The row becomes row i of the matrix, or its column i if turned, and row i of the diagonal. */
         void load(Row row, Matrix source, int i, boolean turned) {
             int front = turned ? source.rows : source.columns;
             row.clear();

@@ -174,6 +174,13 @@ public final class PromisesTest {
         due.number("7: in the first one's place", x.multiply(0, 0, 1), 0);
         due.matrix("7: in the first one's place", x, 0, new long[][] {{-2, 8}, {-2, 17}});
         MatrixDesk y = with(new long[][] {{1000000000}}, new long[][] {{999999999}});
+        Due.write(y, 3, new long[][] {{2, -3}});
+        Due.write(y, 4, new long[][] {{1, 0, 4}, {5, 6, 0}});
+        due.number("7: one row", y.multiply(5, 3, 4), 0);
+        due.matrix("7: one row", y, 5, new long[][] {{-13, -18, 8}});
+        due.number("7: rows as columns are not asked for", y.multiply(5, 4, 3), MatrixDesk.SHAPE);
+        y.make(4, 3, 1);
+        due.number("7: as many columns as rows are not asked for", y.multiply(5, 3, 4), MatrixDesk.SHAPE);
         due.number("7: the edge", y.multiply(2, 0, 0), MatrixDesk.LARGE);
         due.number("7: below the edge", y.multiply(2, 0, 1), 0);
         due.matrix("7: below the edge", y, 2, new long[][] {{999999999000000000L}});
