@@ -1,12 +1,22 @@
 import java.util.Arrays;
+import java.util.function.LongSupplier;
 
 /** Counts and prints what is not as it is due, for one test class. */
 final class Due {
+    static final Class<IndexOutOfBoundsException> INDEX = IndexOutOfBoundsException.class;
+    static final Class<IllegalArgumentException> ARGUMENT = IllegalArgumentException.class;
+
     private final String test;
+    private String about = "";
     private int wrong;
 
     Due(String test) {
         this.test = test;
+    }
+
+    /** What stands before all that is told from now on. */
+    void about(String words) {
+        about = words;
     }
 
     void number(String what, long got, long want) {
@@ -28,46 +38,79 @@ final class Due {
     }
 
     /** What was printed latest, the call that printed it having answered count. */
-    void printed(String what, MatrixDesk x, int count, String want) {
-        StringBuilder got = new StringBuilder();
-        for (int i = 0; i < 1000 && x.character(i) != MatrixDesk.NONE; i++) {
-            got.append((char) x.character(i));
-        }
-        text(what, got.toString(), want);
+    void printed(String what, Desk x, int count, String want) {
+        text(what, x.print(), want);
         number(what + ": characters", count, want.length());
     }
 
-    void matrix(String what, MatrixDesk x, int m, long[][] want) {
-        text(what, Arrays.deepToString(read(x, m)), Arrays.deepToString(want));
+    void matrix(String what, Desk x, int m, long[][] want) {
+        text(what, Arrays.deepToString(x.matrix(m)), Arrays.deepToString(want));
     }
 
+    /** The call answers so, matrix `to` becomes the result, and nothing else changes. */
+    void done(String what, Desk x, long want, LongSupplier call, int to, long[][] result) {
+        Desk.State before = x.state();
+        text(what, answer(call), String.valueOf(want));
+        long[][][] all = before.matrices.clone();
+        all[to] = result;
+        state(what, x, all, before.print);
+    }
+
+    /** The call answers so, and nothing changes: no matrix, and nothing of what was printed. */
+    void still(String what, Desk x, long want, LongSupplier call) {
+        stillAnswers(what, x, String.valueOf(want), call);
+    }
+
+    /** The call throws just that. */
     void throwing(String what, Class<? extends RuntimeException> want, Runnable call) {
-        String got = "nothing";
-        try {
+        text(what, answer(asked(call)), thrown(want));
+    }
+
+    /** The call throws just that, and nothing changes: no matrix, and nothing of what was printed. */
+    void throwing(String what, Desk x, Class<? extends RuntimeException> want, Runnable call) {
+        stillAnswers(what, x, thrown(want), asked(call));
+    }
+
+    /** The call prints the text and tells its length, and no matrix changes. */
+    void prints(String what, Desk x, LongSupplier call, String text) {
+        Desk.State before = x.state();
+        text(what, answer(call), String.valueOf(text.length()));
+        state(what, x, before.matrices, text);
+    }
+
+    private void stillAnswers(String what, Desk x, String want, LongSupplier call) {
+        Desk.State before = x.state();
+        text(what, answer(call), want);
+        state(what, x, before.matrices, before.print);
+    }
+
+    private static LongSupplier asked(Runnable call) {
+        return () -> {
             call.run();
+            return 0;
+        };
+    }
+
+    private static String answer(LongSupplier call) {
+        try {
+            return String.valueOf(call.getAsLong());
         } catch (RuntimeException e) {
-            got = e.getClass().getName();
+            return thrown(e.getClass());
         }
-        text(what + " throws", got, want.getName());
     }
 
-    static long[][] read(MatrixDesk x, int m) {
-        long[][] numbers = new long[x.size(m, 0)][x.size(m, 1)];
-        for (int row = 0; row < numbers.length; row++) {
-            for (int column = 0; column < numbers[row].length; column++) {
-                numbers[row][column] = x.at(m, row, column);
-            }
-        }
-        return numbers;
+    private static String thrown(Class<? extends RuntimeException> kind) {
+        return "throws." + kind.getSimpleName();
     }
 
-    static void write(MatrixDesk x, int m, long[][] numbers) {
-        x.make(m, numbers.length, numbers[0].length);
-        for (int row = 0; row < numbers.length; row++) {
-            for (int column = 0; column < numbers[row].length; column++) {
-                x.put(m, row, column, numbers[row][column]);
+    private void state(String what, Desk x, long[][][] matrices, String print) {
+        Desk.State after = x.state();
+        for (int m = 0; m < matrices.length; m++) {
+            if (!Arrays.deepEquals(after.matrices[m], matrices[m])) {
+                tell(what + ", then matrix " + m, Arrays.deepToString(after.matrices[m]), Arrays.deepToString(matrices[m]));
             }
         }
+        text(what + ", then what was printed", after.print, print);
     }
 
     /** Tells how the test ended, and ends with exit code 1 if something was wrong. */
@@ -81,7 +124,7 @@ final class Due {
     private void tell(String what, String got, String want) {
         wrong++;
         if (wrong <= 50) {
-            System.out.println(test + ": " + what + " answered " + got + ", due is " + want);
+            System.out.println(test + ": " + about + what + " answered " + got + ", due is " + want);
         }
     }
 }

@@ -9,7 +9,7 @@ import java.util.List;
 import java.util.Set;
 import java.util.TreeSet;
 
-/** The face is the document's and no more, and the classes inside keep to LANGUAGE.md's rules 1, 5 and 11. */
+/** The face is the document's and no more, and the classes inside keep to LANGUAGE.md's rules 1, 2, 5, 6 and 11. */
 public final class FaceTest {
     private static final String[] FACE = {
         "static int NONE", "static int SHAPE", "static int LARGE", "MatrixDesk()",
@@ -32,14 +32,15 @@ public final class FaceTest {
                 names.add(method.getName());
             }
         }
-        due.truth("some twelve classes at most", desk.getDeclaredClasses().length <= 11);
+        for (Method method : desk.getDeclaredMethods()) {
+            due.truth(method + " bears no name of the face",
+                !Modifier.isPrivate(method.getModifiers()) || !names.contains(method.getName()));
+        }
+        due.truth("some twelve classes at most", desk.getDeclaredClasses().length <= 12);
         List<Class<?>> all = new ArrayList<>(List.of(desk.getDeclaredClasses()));
         for (Class<?> inside : all) {
-            due.truth(inside + " is static and not public", Modifier.isStatic(inside.getModifiers())
-                && !Modifier.isPublic(inside.getModifiers()) && !Modifier.isProtected(inside.getModifiers()));
-            for (Method method : inside.getDeclaredMethods()) {
-                due.truth(method + " bears no name of the face", !names.contains(method.getName()));
-            }
+            due.truth(inside + " is private or package-visible",
+                !Modifier.isPublic(inside.getModifiers()) && !Modifier.isProtected(inside.getModifiers()));
         }
         all.add(desk);
         all.forEach(FaceTest::members);
@@ -85,8 +86,9 @@ public final class FaceTest {
         due.truth(type + " has some twenty fields at most", fields <= 20);
         for (Method method : type.getDeclaredMethods()) {
             due.truth(method + " takes at most seven", method.getParameterCount() <= 7);
-            due.truth(method + " is no more than a method", !method.isSynthetic()
-                && !Modifier.isSynchronized(method.getModifiers()) && !Modifier.isNative(method.getModifiers()));
+            due.truth(method + " is no lambda", !method.getName().startsWith("lambda$"));
+            due.truth(method + " is neither synchronized nor native",
+                !Modifier.isSynchronized(method.getModifiers()) && !Modifier.isNative(method.getModifiers()));
         }
     }
 }

@@ -1,7 +1,7 @@
 /** Each promise of the document by hand: ordinary inputs, edges, wrong inputs. */
 public final class PromisesTest {
-    private static final Class<IndexOutOfBoundsException> INDEX = IndexOutOfBoundsException.class;
-    private static final Class<IllegalArgumentException> ARGUMENT = IllegalArgumentException.class;
+    private static final Class<IndexOutOfBoundsException> INDEX = Due.INDEX;
+    private static final Class<IllegalArgumentException> ARGUMENT = Due.ARGUMENT;
     private static final long TOP = 999999999999999999L;
     private static final int[] NO_MATRICES = {-1, 6, Integer.MIN_VALUE, Integer.MAX_VALUE};
     private static final long[][] ZERO = {{0}};
@@ -34,14 +34,6 @@ public final class PromisesTest {
         due.end();
     }
 
-    private static MatrixDesk with(long[][]... matrices) {
-        MatrixDesk x = new MatrixDesk();
-        for (int m = 0; m < matrices.length; m++) {
-            Due.write(x, m, matrices[m]);
-        }
-        return x;
-    }
-
     private static void constants() {
         due.number("NONE", MatrixDesk.NONE, -1);
         due.number("SHAPE", MatrixDesk.SHAPE, -2);
@@ -49,7 +41,7 @@ public final class PromisesTest {
     }
 
     private static void newObject() {
-        MatrixDesk x = new MatrixDesk();
+        Desk x = new Desk();
         for (int m = 0; m < 6; m++) {
             due.matrix("1: a new matrix", x, m, ZERO);
         }
@@ -57,7 +49,7 @@ public final class PromisesTest {
     }
 
     private static void make() {
-        MatrixDesk x = with(new long[][] {{7, 8}, {9, 10}});
+        Desk x = Desk.with(new long[][] {{7, 8}, {9, 10}});
         x.make(0, 2, 3);
         due.matrix("2: all 0 again", x, 0, new long[][] {{0, 0, 0}, {0, 0, 0}});
         due.matrix("2: the others stay", x, 1, ZERO);
@@ -67,7 +59,7 @@ public final class PromisesTest {
         due.matrix("2: one row", x, 5, new long[1][6]);
         x.make(5, 6, 1);
         due.matrix("2: one column", x, 5, new long[6][1]);
-        MatrixDesk y = with(new long[][] {{7, 8}, {9, 10}});
+        Desk y = Desk.with(new long[][] {{7, 8}, {9, 10}});
         int[][] wrong = {{0, 1}, {1, 0}, {7, 1}, {1, 7}, {-1, 2}, {2, -1}, {0, 0},
             {Integer.MAX_VALUE, 1}, {1, Integer.MIN_VALUE}};
         for (int[] sides : wrong) {
@@ -80,7 +72,7 @@ public final class PromisesTest {
     }
 
     private static void put() {
-        MatrixDesk x = with(new long[2][3]);
+        Desk x = Desk.with(new long[2][3]);
         x.put(0, 0, 0, TOP);
         x.put(0, 0, 2, -TOP);
         x.put(0, 1, 1, -5);
@@ -102,7 +94,7 @@ public final class PromisesTest {
     }
 
     private static void at() {
-        MatrixDesk x = with(new long[][] {{1, 2, 3}, {4, 5, -TOP}});
+        Desk x = Desk.with(new long[][] {{1, 2, 3}, {4, 5, -TOP}});
         due.number("4: first", x.at(0, 0, 0), 1);
         due.number("4: row, then column", x.at(0, 0, 2), 3);
         due.number("4: last", x.at(0, 1, 2), -TOP);
@@ -115,7 +107,7 @@ public final class PromisesTest {
     }
 
     private static void size() {
-        MatrixDesk x = with(new long[2][3], new long[6][1]);
+        Desk x = Desk.with(new long[2][3], new long[6][1]);
         due.number("5: rows", x.size(0, 0), 2);
         due.number("5: columns", x.size(0, 1), 3);
         due.number("5: rows", x.size(1, 0), 6);
@@ -131,7 +123,7 @@ public final class PromisesTest {
     private static void combine() {
         long[][] a = {{1, -2}, {3, TOP}};
         long[][] b = {{10, 20}, {30, -TOP}};
-        MatrixDesk x = with(a, b, new long[][] {{1, 2}});
+        Desk x = Desk.with(a, b, new long[][] {{1, 2}});
         due.number("6: sum", x.combine(3, 0, 2, 1, 2), 0);
         due.matrix("6: sum", x, 3, new long[][] {{22, 36}, {66, 0}});
         due.number("6: large on the way alone", x.combine(3, 0, Integer.MAX_VALUE, 1, Integer.MAX_VALUE), 0);
@@ -147,7 +139,7 @@ public final class PromisesTest {
         due.matrix("6: in its own place", x, 0, new long[][] {{-1, 2}, {-3, -TOP}});
         due.number("6: all 0", x.combine(0, 0, 0, 1, 0), 0);
         due.matrix("6: all 0", x, 0, new long[2][2]);
-        MatrixDesk y = with(new long[][] {{TOP}}, new long[][] {{1}});
+        Desk y = Desk.with(new long[][] {{TOP}}, new long[][] {{1}});
         due.number("6: just too large", y.combine(2, 0, 1, 1, 1), MatrixDesk.LARGE);
         due.number("6: just too large below 0", y.combine(2, 0, -1, 1, -1), MatrixDesk.LARGE);
         due.number("6: just not", y.combine(2, 0, -1, 1, 1), 0);
@@ -159,7 +151,7 @@ public final class PromisesTest {
     private static void multiply() {
         long[][] a = {{1, 2, 3}, {4, 5, 6}};
         long[][] b = {{1, 0}, {0, 1}, {-1, 2}};
-        MatrixDesk x = with(a, b, new long[][] {{TOP, TOP}}, new long[][] {{TOP}, {-TOP}});
+        Desk x = Desk.with(a, b, new long[][] {{TOP, TOP}}, new long[][] {{TOP}, {-TOP}});
         due.number("7: product", x.multiply(4, 0, 1), 0);
         due.matrix("7: product", x, 4, new long[][] {{-2, 8}, {-2, 17}});
         due.number("7: the other way", x.multiply(5, 1, 0), 0);
@@ -173,9 +165,9 @@ public final class PromisesTest {
         due.matrix("7: in its own place", x, 5, new long[][] {{30, 36, 42}, {66, 81, 96}, {102, 126, 150}});
         due.number("7: in the first one's place", x.multiply(0, 0, 1), 0);
         due.matrix("7: in the first one's place", x, 0, new long[][] {{-2, 8}, {-2, 17}});
-        MatrixDesk y = with(new long[][] {{1000000000}}, new long[][] {{999999999}});
-        Due.write(y, 3, new long[][] {{2, -3}});
-        Due.write(y, 4, new long[][] {{1, 0, 4}, {5, 6, 0}});
+        Desk y = Desk.with(new long[][] {{1000000000}}, new long[][] {{999999999}});
+        y.write(3, new long[][] {{2, -3}});
+        y.write(4, new long[][] {{1, 0, 4}, {5, 6, 0}});
         due.number("7: one row", y.multiply(5, 3, 4), 0);
         due.matrix("7: one row", y, 5, new long[][] {{-13, -18, 8}});
         due.number("7: rows as columns are not asked for", y.multiply(5, 4, 3), MatrixDesk.SHAPE);
@@ -187,7 +179,7 @@ public final class PromisesTest {
     }
 
     private static void turn() {
-        MatrixDesk x = with(new long[][] {{1, 2, 3}, {4, 5, -TOP}});
+        Desk x = Desk.with(new long[][] {{1, 2, 3}, {4, 5, -TOP}});
         x.turn(1, 0);
         due.matrix("8: turned", x, 1, new long[][] {{1, 4}, {2, 5}, {3, -TOP}});
         due.matrix("8: the old one stays", x, 0, new long[][] {{1, 2, 3}, {4, 5, -TOP}});
@@ -202,7 +194,7 @@ public final class PromisesTest {
                 large[i][j] = i == j ? -TOP : TOP;
             }
         }
-        MatrixDesk x = with(ZERO, new long[][] {{0, 0, 3}, {0, 0, 5}}, SMITH,
+        Desk x = Desk.with(ZERO, new long[][] {{0, 0, 3}, {0, 0, 5}}, SMITH,
             new long[][] {{1, 2}, {2, 4}, {0, 1}}, large, new long[][] {{0}, {0}, {-7}});
         due.number("9: zero", x.rank(0), 0);
         due.number("9: one", x.rank(1), 1);
@@ -216,7 +208,7 @@ public final class PromisesTest {
     }
 
     private static void hermite() {
-        MatrixDesk x = with(SMITH, new long[][] {{0, 0}, {0, -4}, {0, 6}}, new long[][] {{-5}},
+        Desk x = Desk.with(SMITH, new long[][] {{0, 0}, {0, -4}, {0, 6}}, new long[][] {{-5}},
             new long[][] {{3, 1}, {0, 5}, {0, -7}});
         due.number("10: rank", x.hermite(4, 0), 3);
         due.matrix("10: form", x, 4, new long[][] {{2, 4, 4}, {0, 6, 0}, {0, 0, 12}});
@@ -228,7 +220,7 @@ public final class PromisesTest {
         due.matrix("10: above a lead", x, 3, new long[][] {{3, 0}, {0, 1}, {0, 0}});
         due.number("10: zero", x.hermite(0, 5), 0);
         due.matrix("10: zero", x, 0, ZERO);
-        MatrixDesk y = with(new long[][] {{TOP, 1}, {1, 1}}, new long[][] {{2, TOP}, {3, -TOP}},
+        Desk y = Desk.with(new long[][] {{TOP, 1}, {1, 1}}, new long[][] {{2, TOP}, {3, -TOP}},
             new long[][] {{TOP, 0}, {0, TOP}}, new long[][] {{1, TOP}, {0, TOP}});
         due.number("10: large numbers", y.hermite(4, 0), 2);
         due.matrix("10: large numbers", y, 4, new long[][] {{1, 1}, {0, TOP - 1}});
@@ -238,16 +230,16 @@ public final class PromisesTest {
         due.matrix("10: leads at the edge", y, 4, new long[][] {{TOP, 0}, {0, TOP}});
         due.number("10: above a lead of the same size", y.hermite(4, 3), 2);
         due.matrix("10: above a lead of the same size", y, 4, new long[][] {{1, 0}, {0, TOP}});
-        MatrixDesk z = with(new long[][] {{1, 2, -3}, {2, 4, -7}});
+        Desk z = Desk.with(new long[][] {{1, 2, -3}, {2, 4, -7}});
         due.number("10: behind the last lead any sign", z.hermite(0, 0), 2);
         due.matrix("10: behind the last lead any sign", z, 0, new long[][] {{1, 2, 0}, {0, 0, 1}});
-        Due.write(z, 0, new long[][] {{-2, 5, 9}, {4, -10, 3}});
+        z.write(0, new long[][] {{-2, 5, 9}, {4, -10, 3}});
         due.number("10: a number behind below 0", z.hermite(1, 0), 2);
         due.matrix("10: a number behind below 0", z, 1, new long[][] {{2, -5, 12}, {0, 0, 21}});
     }
 
     private static void kernel() {
-        MatrixDesk x = with(new long[][] {{6, 10, 15}}, SMITH, ZERO, new long[][] {{1, 2}, {2, 4}, {3, 6}},
+        Desk x = Desk.with(new long[][] {{6, 10, 15}}, SMITH, ZERO, new long[][] {{1, 2}, {2, 4}, {3, 6}},
             new long[][] {{7}, {8}});
         due.number("11: two rows", x.kernel(5, 0), 2);
         due.matrix("11: two rows", x, 5, new long[][] {{5, 0, -2}, {0, 3, -2}});
@@ -263,7 +255,7 @@ public final class PromisesTest {
         due.number("11: all six", x.kernel(0, 0), 6);
         due.matrix("11: all six", x, 0, new long[][] {{1, 0, 0, 0, 0, 0}, {0, 1, 0, 0, 0, 0},
             {0, 0, 1, 0, 0, 0}, {0, 0, 0, 1, 0, 0}, {0, 0, 0, 0, 1, 0}, {0, 0, 0, 0, 0, 1}});
-        MatrixDesk y = with(new long[][] {{TOP, 1}}, new long[][] {{TOP, 1, 0}, {0, TOP, 1}});
+        Desk y = Desk.with(new long[][] {{TOP, 1}}, new long[][] {{TOP, 1, 0}, {0, TOP, 1}});
         due.number("11: the edge", y.kernel(2, 0), 1);
         due.matrix("11: the edge", y, 2, new long[][] {{1, -TOP}});
         due.number("11: large", y.kernel(2, 1), MatrixDesk.LARGE);
@@ -271,7 +263,7 @@ public final class PromisesTest {
     }
 
     private static void solve() {
-        MatrixDesk x = with(new long[][] {{6, 10, 15}}, new long[][] {{1}}, SMITH,
+        Desk x = Desk.with(new long[][] {{6, 10, 15}}, new long[][] {{1}}, SMITH,
             new long[][] {{10}, {12}, {-10}}, new long[][] {{1}, {0}, {0}});
         due.number("12: the first", x.solve(5, 0, 1), 1);
         due.matrix("12: the first", x, 5, new long[][] {{1}, {1}, {-1}});
@@ -287,21 +279,21 @@ public final class PromisesTest {
         due.matrix("12: in a's place", x, 2, new long[][] {{1}, {1}, {1}});
         due.number("12: in b's place", x.solve(1, 0, 1), 1);
         due.matrix("12: in b's place", x, 1, new long[][] {{1}, {1}, {-1}});
-        MatrixDesk y = with(new long[][] {{1, 2}, {1, 2}}, new long[][] {{1}, {2}},
+        Desk y = Desk.with(new long[][] {{1, 2}, {1, 2}}, new long[][] {{1}, {2}},
             new long[][] {{1, 0}, {TOP, 1}}, new long[][] {{TOP}, {0}}, ZERO, ZERO);
         due.number("12: rows against one another", y.solve(5, 0, 1), 0);
         due.number("12: large", y.solve(5, 2, 3), MatrixDesk.LARGE);
         due.matrix("12: large changes nothing", y, 5, ZERO);
-        Due.write(y, 3, new long[][] {{1}, {0}});
+        y.write(3, new long[][] {{1}, {0}});
         due.number("12: the edge", y.solve(5, 2, 3), 1);
         due.matrix("12: the edge", y, 5, new long[][] {{1}, {-TOP}});
         y.make(1, 1, 3);
         due.number("12: 0 of nothing", y.solve(5, 1, 4), 1);
         due.matrix("12: 0 of nothing", y, 5, new long[3][1]);
-        Due.write(y, 4, new long[][] {{3}});
+        y.write(4, new long[][] {{3}});
         due.number("12: 3 of nothing", y.solve(5, 1, 4), 0);
-        Due.write(y, 0, new long[][] {{1, -1}});
-        Due.write(y, 1, new long[][] {{-4}});
+        y.write(0, new long[][] {{1, -1}});
+        y.write(1, new long[][] {{-4}});
         due.number("12: from 0 on", y.solve(5, 0, 1), 1);
         due.matrix("12: from 0 on", y, 5, new long[][] {{0}, {4}});
     }
@@ -311,7 +303,7 @@ public final class PromisesTest {
         for (int i = 0; i < 6; i++) {
             large[i][5 - i] = TOP;
         }
-        MatrixDesk x = with(SMITH, new long[][] {{-7}}, new long[][] {{1, 2}, {2, 4}}, new long[2][3], large,
+        Desk x = Desk.with(SMITH, new long[][] {{-7}}, new long[][] {{1, 2}, {2, 4}}, new long[2][3], large,
             new long[][] {{0, 1}, {1, 0}});
         due.printed("13: below 0", x, x.determinant(0), "-144");
         due.number("13: shape", x.determinant(3), MatrixDesk.SHAPE);
@@ -321,16 +313,16 @@ public final class PromisesTest {
         due.printed("13: an exchange", x, x.determinant(5), "-1");
         due.printed("13: large", x, x.determinant(4),
             new java.math.BigInteger("999999999999999999").pow(6).negate().toString());
-        Due.write(x, 0, new long[][] {{1000000000, 0}, {0, 1000000000}});
+        x.write(0, new long[][] {{1000000000, 0}, {0, 1000000000}});
         due.printed("13: zeros inside", x, x.determinant(0), "1000000000000000000");
-        Due.write(x, 0, new long[][] {{1000000000, 5}, {-1, 1000000000}});
+        x.write(0, new long[][] {{1000000000, 5}, {-1, 1000000000}});
         due.printed("13: zeros inside", x, x.determinant(0), "1000000000000000005");
-        Due.write(x, 0, new long[][] {{10}});
+        x.write(0, new long[][] {{10}});
         due.printed("13: ten", x, x.determinant(0), "10");
     }
 
     private static void divisor() {
-        MatrixDesk x = with(SMITH, new long[][] {{0, 0}, {0, 0}}, new long[][] {{-6, 9, 12}, {3, 6, 0}},
+        Desk x = Desk.with(SMITH, new long[][] {{0, 0}, {0, 0}}, new long[][] {{-6, 9, 12}, {3, 6, 0}},
             new long[][] {{1, 2}, {2, 4}}, new long[][] {{-5}});
         due.printed("14: D(1)", x, x.divisor(0, 1), "2");
         due.printed("14: D(2)", x, x.divisor(0, 2), "12");
@@ -351,7 +343,7 @@ public final class PromisesTest {
     }
 
     private static void factor() {
-        MatrixDesk x = with(SMITH, new long[][] {{1, 2}, {2, 4}}, new long[][] {{-6, 9, 12}, {3, 6, 0}},
+        Desk x = Desk.with(SMITH, new long[][] {{1, 2}, {2, 4}}, new long[][] {{-6, 9, 12}, {3, 6, 0}},
             new long[][] {{-5}});
         due.printed("15: first", x, x.factor(0, 1), "2");
         due.printed("15: second", x, x.factor(0, 2), "6");
@@ -370,7 +362,7 @@ public final class PromisesTest {
     }
 
     private static void inverse() {
-        MatrixDesk x = with(new long[][] {{1, 2}, {3, 4}}, new long[][] {{-4}}, new long[][] {{1, 2}, {2, 4}},
+        Desk x = Desk.with(new long[][] {{1, 2}, {3, 4}}, new long[][] {{-4}}, new long[][] {{1, 2}, {2, 4}},
             new long[2][3], new long[][] {{2, 0}, {0, -6}}, new long[][] {{1, 5}, {0, 1}});
         due.printed("16: whole below 0", x, x.inverse(0, 0, 0), "-2");
         due.printed("16: whole", x, x.inverse(0, 0, 1), "1");
@@ -390,12 +382,12 @@ public final class PromisesTest {
         due.printed("16: zero", x, x.inverse(4, 0, 1), "0");
         due.printed("16: row, then column", x, x.inverse(5, 0, 1), "-5");
         due.printed("16: row, then column", x, x.inverse(5, 1, 0), "0");
-        Due.write(x, 1, new long[][] {{TOP}});
+        x.write(1, new long[][] {{TOP}});
         due.printed("16: large below", x, x.inverse(1, 0, 0), "1/999999999999999999");
     }
 
     private static void characteristic() {
-        MatrixDesk x = with(SMITH, new long[][] {{-7}}, new long[2][3], new long[][] {{2, 1}, {0, 3}}, new long[6][6]);
+        Desk x = Desk.with(SMITH, new long[][] {{-7}}, new long[2][3], new long[][] {{2, 1}, {0, 3}}, new long[6][6]);
         String[] smith = {"144", "-84", "8", "1"};
         for (int k = 0; k < smith.length; k++) {
             due.printed("17: three rows, number " + k, x, x.characteristic(0, k), smith[k]);
@@ -419,7 +411,7 @@ public final class PromisesTest {
     }
 
     private static void character() {
-        MatrixDesk x = with(SMITH);
+        Desk x = Desk.with(SMITH);
         int[] none = {-1, 4, Integer.MIN_VALUE, Integer.MAX_VALUE};
         for (int i : none) {
             due.number("18: nothing printed", x.character(i), MatrixDesk.NONE);
@@ -441,7 +433,7 @@ public final class PromisesTest {
     }
 
     private static void same() {
-        MatrixDesk x = with(new long[][] {{1, 2}, {3, 4}}, new long[][] {{1, 2}, {3, 4}}, new long[][] {{1, 2}, {3, 5}},
+        Desk x = Desk.with(new long[][] {{1, 2}, {3, 4}}, new long[][] {{1, 2}, {3, 4}}, new long[][] {{1, 2}, {3, 5}},
             new long[2][3], new long[3][2], new long[][] {{1, 2}});
         due.truth("19: same", x.same(0, 1));
         due.truth("19: itself", x.same(2, 2));
@@ -464,7 +456,7 @@ public final class PromisesTest {
             }
         }
         long[][][] all = {ZERO, SMITH, new long[6][6], new long[][] {{0, 0, 4}, {0, 0, 6}}, large, {{1}, {2}, {3}}};
-        MatrixDesk x = with(all);
+        Desk x = Desk.with(all);
         for (int m = 0; m < 6; m++) {
             due.number("20: matrix " + m, x.check(m), 1);
             due.matrix("20: nothing changes", x, m, all[m]);
@@ -472,7 +464,7 @@ public final class PromisesTest {
     }
 
     private static void noSuchMatrix() {
-        MatrixDesk x = with(SMITH);
+        Desk x = Desk.with(SMITH);
         x.determinant(0);
         for (int m : NO_MATRICES) {
             due.throwing("6: to", INDEX, () -> x.combine(m, 0, 1, 0, 1));

