@@ -32,8 +32,8 @@ final class CallEdges {
     }
 
     private static Desk ready() {
-        return Desk.printed(new long[][] {{2, 4, 4}, {-6, 6, 12}, {10, -4, -16}}, Samples.column(10, 12, -10), Samples.row(6, 10, 15),
-            new long[][] {{1}}, new long[][] {{1, 2}, {2, 4}});
+        return Desk.printed(new long[][] {{2, 4, 4}, {-6, 6, 12}, {10, -4, -16}}, Samples.column(10, 12, -10),
+            Samples.row(6, 10, 15), new long[][] {{1}}, new long[][] {{1, 2}, {2, 4}});
     }
 
     /** Calls that change nothing, until so many were made. */
@@ -49,6 +49,7 @@ final class CallEdges {
         prints();
         refused();
         counts();
+        oneCallAllTheTime();
         dear();
     }
 
@@ -170,6 +171,51 @@ final class CallEdges {
             due.number("call " + (x.calls() + 1) + ": combine", x.combine(0, 0, 1, 1, 1), 0);
         }
         due.number("call 512: at", x.at(0, 0, 0), LAST - 2);
+    }
+
+    private void always(String what, long want, ToLongFunction<Desk> call) {
+        Desk x = new Desk();
+        while (x.calls() < LAST) {
+            due.number("call " + (x.calls() + 1) + ", always " + what, call.applyAsLong(x), want);
+        }
+    }
+
+    private void oneCallAllTheTime() {
+        always("at", 0, x -> x.at(0, 0, 0));
+        always("size", 1, x -> x.size(0, 0));
+        always("combine", 0, x -> x.combine(0, 0, 1, 0, 1));
+        always("multiply", 0, x -> x.multiply(0, 0, 0));
+        always("rank", 0, x -> x.rank(0));
+        always("hermite", 0, x -> x.hermite(0, 0));
+        always("kernel", 1, x -> x.kernel(1, 0));
+        always("solve", 1, x -> x.solve(1, 0, 0));
+        always("determinant", 1, x -> x.determinant(0));
+        always("divisor", 1, x -> x.divisor(0, 1));
+        always("factor", MatrixDesk.NONE, x -> x.factor(0, 1));
+        always("inverse", MatrixDesk.NONE, x -> x.inverse(0, 0, 0));
+        always("characteristic", 1, x -> x.characteristic(0, 1));
+        always("character", MatrixDesk.NONE, x -> x.character(0));
+        always("same", 1, x -> x.same(0, 5) ? 1 : 0);
+        always("check", 1, x -> x.check(0));
+        oneChangeAllTheTime();
+    }
+
+    private void oneChangeAllTheTime() {
+        Desk x = new Desk();
+        while (x.calls() < LAST - 1) {
+            x.put(0, 0, 0, x.calls());
+        }
+        due.number("call 512 behind 511 of put", x.at(0, 0, 0), LAST - 2);
+        Desk y = new Desk();
+        while (y.calls() < LAST - 1) {
+            y.make(0, 1 + y.calls() % 6, 6 - y.calls() % 6);
+        }
+        due.number("call 512 behind 511 of make", y.size(0, 0), 1 + (LAST - 2) % 6);
+        Desk z = Desk.with(Samples.row(1, 2, 3));
+        while (z.calls() < LAST - 1) {
+            z.turn(0, 0);
+        }
+        due.number("call 512 behind many of turn", z.size(0, 0), 3);
     }
 
     /** The dearest calls with the largest numbers, until the last. */

@@ -107,7 +107,8 @@ final class Due {
         Desk.State after = x.state();
         for (int m = 0; m < matrices.length; m++) {
             if (!Arrays.deepEquals(after.matrices[m], matrices[m])) {
-                tell(what + ", then matrix " + m, Arrays.deepToString(after.matrices[m]), Arrays.deepToString(matrices[m]));
+                tell(what + ", then matrix " + m, Arrays.deepToString(after.matrices[m]),
+                    Arrays.deepToString(matrices[m]));
             }
         }
         text(what + ", then what was printed", after.print, print);

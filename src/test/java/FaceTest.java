@@ -52,7 +52,8 @@ public final class FaceTest {
         Set<String> face = new TreeSet<>();
         for (Field field : desk.getDeclaredFields()) {
             if (!Modifier.isPrivate(field.getModifiers())) {
-                face.add((Modifier.isStatic(field.getModifiers()) ? "static " : "") + field.getType() + " " + field.getName());
+                face.add((Modifier.isStatic(field.getModifiers()) ? "static " : "") + field.getType() + " "
+                    + field.getName());
             }
         }
         for (Constructor<?> constructor : desk.getDeclaredConstructors()) {

@@ -26,8 +26,9 @@ final class FormEdges {
         edges.promise(12, "0, and nothing is done, when there is none", this::solveNone);
         edges.promise(12, "SHAPE, if b is not one column with as many rows", this::solveShape);
         edges.promise(12, "LARGE", this::solveLarge);
-        edges.promise(20, "Whether, for matrix m, the steps that the desk goes to its Hermite form come to just that, and can be gone back, "
-            + "and the determinant of as many steps as there are rows is 1 or -1: 1; it would tell 0", this::check);
+        edges.promise(20, "Whether, for matrix m, the steps that the desk goes to its Hermite form come to just that, "
+            + "and can be gone back, and the determinant of as many steps as there are rows is 1 or -1: 1; "
+            + "it would tell 0", this::check);
     }
 
     /** Every shape with every rank, the numbers mixed by whole multiples so that no row shows it. */
@@ -129,7 +130,8 @@ final class FormEdges {
         Desk y = Desk.printed();
         due.done("a new object's matrix", y, 1, () -> y.kernel(0, 0), 0, new long[][] {{1}});
         Desk z = Desk.printed(Samples.all(6, 6, -TOP));
-        due.done("all the same", z, 5, () -> z.kernel(1, 0), 1, Samples.longs(Reference.kernel(Reference.of(Samples.all(6, 6, 1)))));
+        due.done("all the same", z, 5, () -> z.kernel(1, 0), 1,
+            Samples.longs(Reference.kernel(Reference.of(Samples.all(6, 6, 1)))));
     }
 
     private void kernelOfZeroAlone() {
@@ -206,7 +208,8 @@ final class FormEdges {
         noSolution("all even", Samples.row(2, 4, 6, 8, 10, 12), new long[][] {{TOP}});
         noSolution("rows against one another", Samples.column(1, 1, 1, 1, 1, 1), Samples.column(1, 1, 1, 1, 1, 2));
         noSolution("a row of 0", new long[][] {{1, 0}, {0, 0}}, Samples.column(5, 1));
-        noSolution("too large in one, none in another", new long[][] {{1, 0, 0}, {TOP, 1, 0}, {0, 0, 2}}, Samples.column(1, -1, 1));
+        noSolution("too large in one, none in another", new long[][] {{1, 0, 0}, {TOP, 1, 0}, {0, 0, 2}},
+            Samples.column(1, -1, 1));
         noSolution("less than one", new long[][] {{TOP}}, new long[][] {{1}});
         noSolution("largest numbers", Samples.large(6, 6), Samples.column(1, 0, 0, 0, 0, 0));
         for (int row = 0; row < 6; row++) {
@@ -243,7 +246,8 @@ final class FormEdges {
     private void notOneColumn(String what, int rows, int columns, int otherRows, int otherColumns) {
         for (int to = 0; to < 3; to++) {
             int target = to;
-            Desk x = Desk.printed(Samples.numbered(rows, columns), new long[otherRows][otherColumns], new long[][] {{1, 2}});
+            Desk x = Desk.printed(Samples.numbered(rows, columns), new long[otherRows][otherColumns],
+                new long[][] {{1, 2}});
             due.still(what + ", to " + to, x, SHAPE, () -> x.solve(target, 0, 1));
         }
     }

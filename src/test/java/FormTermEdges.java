@@ -14,17 +14,17 @@ final class FormTermEdges {
     }
 
     void run() {
-        edges.terms("A matrix is REACHED from another one by steps, each of which adds a whole multiple of a row to another row, "
-            + "exchanges two rows, or turns all signs of a row", this::steps);
+        edges.terms("A matrix is REACHED from another one by steps, each of which adds a whole multiple of a row "
+            + "to another row, exchanges two rows, or turns all signs of a row", this::steps);
         edges.terms("THE HERMITE FORM is the one matrix that is reached", this::formOfForm);
         edges.terms("in which the first number that is not 0 of each row, its LEAD, is above 0", this::leadAboveZero);
         edges.terms("leads lie farther behind from row to row", this::leadsFartherBehind);
         edges.terms("rows of 0 alone are the last ones", this::rowsOfZeroLast);
         edges.terms("and above a lead stand numbers from 0 to below it. (There is just one.)", this::aboveLeads);
-        edges.terms("THE KERNEL of a matrix are the rows x of whole numbers for which all its rows, times x, number by number, "
-            + "added, give 0", this::kernel);
-        edges.terms("THE KERNEL'S BASIS is the Hermite form without rows of 0 whose rows, times whole numbers and added, "
-            + "give just the kernel", this::basis);
+        edges.terms("THE KERNEL of a matrix are the rows x of whole numbers for which all its rows, times x, "
+            + "number by number, added, give 0", this::kernel);
+        edges.terms("THE KERNEL'S BASIS is the Hermite form without rows of 0 whose rows, times whole numbers "
+            + "and added, give just the kernel", this::basis);
         edges.terms("A SOLUTION of A and one column b: a column x of whole numbers for which A x is b", this::solution);
         edges.terms("Of all solutions THE FIRST is the one that has, in the column of each lead of the kernel's basis, "
             + "a number from 0 to below that lead. (There is just one, if there is any.)", this::first);
@@ -76,8 +76,10 @@ final class FormTermEdges {
             form(Samples.sides(rows, columns) + ", of the form", once, once, rank);
             form(Samples.sides(rows, columns) + ", of 0 alone", new long[rows][columns], new long[rows][columns], 0);
         });
-        form("Euclid's longest way", Samples.column(Samples.GREATER_FIBONACCI, Samples.LESSER_FIBONACCI), Samples.column(1, 0), 1);
-        form("Euclid's longest way, turned", Samples.column(-Samples.LESSER_FIBONACCI, Samples.GREATER_FIBONACCI), Samples.column(1, 0), 1);
+        form("Euclid's longest way", Samples.column(Samples.GREATER_FIBONACCI, Samples.LESSER_FIBONACCI),
+            Samples.column(1, 0), 1);
+        form("Euclid's longest way, turned", Samples.column(-Samples.LESSER_FIBONACCI, Samples.GREATER_FIBONACCI),
+            Samples.column(1, 0), 1);
     }
 
     private void leadAboveZero() {
@@ -112,7 +114,8 @@ final class FormTermEdges {
             form("leads " + Integer.toBinaryString(set), a, form, count);
         }
         form("two leads in one column", new long[][] {{2, 1}, {2, 4}}, new long[][] {{2, 1}, {0, 3}}, 2);
-        form("leads with a gap", new long[][] {{0, 0, 5}, {0, 0, 0}, {3, 1, 0}}, new long[][] {{3, 1, 0}, {0, 0, 5}, {0, 0, 0}}, 2);
+        form("leads with a gap", new long[][] {{0, 0, 5}, {0, 0, 0}, {3, 1, 0}},
+            new long[][] {{3, 1, 0}, {0, 0, 5}, {0, 0, 0}}, 2);
     }
 
     /** Rows of 0 in every choice of places; and rows that become 0. */
@@ -134,7 +137,8 @@ final class FormTermEdges {
             form("rows of 0: " + Integer.toBinaryString(set), a, form, count);
         }
         form("the same row six times", Samples.all(6, 6, TOP), sameRowForm(), 1);
-        form("the second is a multiple", new long[][] {{1, 2}, {-3, -6}, {0, 5}}, new long[][] {{1, 2}, {0, 5}, {0, 0}}, 2);
+        form("the second is a multiple", new long[][] {{1, 2}, {-3, -6}, {0, 5}},
+            new long[][] {{1, 2}, {0, 5}, {0, 0}}, 2);
     }
 
     private static long[][] sameRowForm() {
@@ -146,7 +150,8 @@ final class FormTermEdges {
     private void aboveLeads() {
         long[] leads = {1, 2, 7, ROOT, TOP};
         for (long lead : leads) {
-            long[] above = {0, 1, -1, lead - 1, lead, Math.min(lead + 1, TOP), 1 - lead, -lead, Math.max(-lead - 1, -TOP), TOP, -TOP};
+            long[] above = {0, 1, -1, lead - 1, lead, Math.min(lead + 1, TOP), 1 - lead, -lead,
+                Math.max(-lead - 1, -TOP), TOP, -TOP};
             for (long v : above) {
                 String what = v + " above lead " + lead;
                 form(what, new long[][] {{1, v}, {0, lead}}, new long[][] {{1, Math.floorMod(v, lead)}, {0, lead}}, 2);
@@ -169,7 +174,8 @@ final class FormTermEdges {
             String what = Samples.sides(rows, columns);
             kernelIs(what + ", of 0 alone", new long[rows][columns], Samples.diagonal(columns, columns, columns, 1));
             for (int column = 0; column < columns && columns > 1; column++) {
-                kernelIs(what + ", one number", Samples.one(rows, columns, rows - 1, column, -TOP), unitsBut(columns, column));
+                kernelIs(what + ", one number", Samples.one(rows, columns, rows - 1, column, -TOP),
+                    unitsBut(columns, column));
             }
             for (int k = 1; k < columns && k <= rows; k++) {
                 kernelIs(what + ", diagonal of " + k, Samples.diagonal(rows, columns, k, 5), lastUnits(columns, k));
@@ -249,7 +255,8 @@ final class FormTermEdges {
         solves("one x, two rows", Samples.column(1, -1), Samples.column(TOP, -TOP), Samples.column(TOP));
         hasNone("whole in each row alone", new long[][] {{1, 1}, {1, -1}}, Samples.column(1, 0));
         for (int row = 0; row < 6; row++) {
-            solves("six rows, all but one", Samples.diagonal(6, 6, 6, 2), Samples.one(6, 1, row, 0, 4), Samples.one(6, 1, row, 0, 2));
+            solves("six rows, all but one", Samples.diagonal(6, 6, 6, 2), Samples.one(6, 1, row, 0, 4),
+                Samples.one(6, 1, row, 0, 2));
             hasNone("six rows, one odd", Samples.diagonal(6, 6, 6, 2), Samples.one(6, 1, row, 0, 3));
         }
     }
@@ -258,7 +265,8 @@ final class FormTermEdges {
     private void first() {
         long[] leads = {1, 2, 7, ROOT, TOP};
         for (long lead : leads) {
-            long[] wanted = {0, 1, -1, lead - 1, lead, Math.min(lead + 1, TOP), 1 - lead, -lead, Math.max(-lead - 1, -TOP), TOP, -TOP};
+            long[] wanted = {0, 1, -1, lead - 1, lead, Math.min(lead + 1, TOP), 1 - lead, -lead,
+                Math.max(-lead - 1, -TOP), TOP, -TOP};
             for (long b : wanted) {
                 String what = "x - " + lead + " y = " + b;
                 long x = Math.floorMod(b, lead);

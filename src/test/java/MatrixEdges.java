@@ -32,7 +32,8 @@ final class MatrixEdges {
         edges.promise(6, "Matrix to becomes matrix a times x and matrix b times y, added: 0", this::combineNumbers);
         edges.promise(6, "SHAPE", this::combineShape);
         edges.promise(6, "LARGE", this::combineLarge);
-        edges.promise(6, "IndexOutOfBoundsException when there is no such matrix (here and below)", this::noSuchMatrixBelow);
+        edges.promise(6, "IndexOutOfBoundsException when there is no such matrix (here and below)",
+            this::noSuchMatrixBelow);
         edges.promise(7, "Matrix to becomes the product of matrix a and matrix b: 0", this::multiplyNumbers);
         edges.promise(7, "SHAPE", this::multiplyShape);
         edges.promise(7, "LARGE", this::multiplyLarge);
@@ -98,7 +99,8 @@ final class MatrixEdges {
             for (int m = 0; m < 6; m += 5) {
                 int matrix = m;
                 Desk x = Desk.printed(Samples.numbered(3, 3), Samples.numbered(2, 2));
-                due.done(what + ", matrix " + m, x, 0, () -> make(x, matrix, rows, columns), m, new long[rows][columns]);
+                due.done(what + ", matrix " + m, x, 0, () -> make(x, matrix, rows, columns), m,
+                    new long[rows][columns]);
             }
             Desk y = Desk.printed(Samples.numbered(rows, columns));
             due.done(what + " again", y, 0, () -> make(y, 0, rows, columns), 0, new long[rows][columns]);
@@ -134,7 +136,8 @@ final class MatrixEdges {
     }
 
     private void putNumber() {
-        long[] numbers = {0, 1, -1, TOP, -TOP, Integer.MAX_VALUE, Integer.MIN_VALUE, 1L << 31, 1L << 32, -(1L << 32), 1L << 59};
+        long[] numbers = {0, 1, -1, TOP, -TOP, Integer.MAX_VALUE, Integer.MIN_VALUE, 1L << 31, 1L << 32, -(1L << 32),
+            1L << 59};
         for (int row = 0; row < 6; row++) {
             for (int column = 0; column < 6; column++) {
                 for (long v : numbers) {
@@ -164,12 +167,14 @@ final class MatrixEdges {
             for (int row : Samples.beyond(0, rows - 1)) {
                 Desk x = Desk.printed(Samples.numbered(rows, columns));
                 due.throwing(what + ", row " + row, x, Due.INDEX, () -> x.put(0, row, 0, 99));
-                due.throwing(what + ", row " + row + ", too large", x, Due.INDEX, () -> x.put(0, row, columns - 1, TOP + 1));
+                due.throwing(what + ", row " + row + ", too large", x, Due.INDEX,
+                    () -> x.put(0, row, columns - 1, TOP + 1));
             }
             for (int column : Samples.beyond(0, columns - 1)) {
                 Desk x = Desk.printed(Samples.numbered(rows, columns));
                 due.throwing(what + ", column " + column, x, Due.INDEX, () -> x.put(0, 0, column, 99));
-                due.throwing(what + ", column " + column + ", too large", x, Due.INDEX, () -> x.put(0, rows - 1, column, TOP + 1));
+                due.throwing(what + ", column " + column + ", too large", x, Due.INDEX,
+                    () -> x.put(0, rows - 1, column, TOP + 1));
             }
         });
     }
@@ -256,7 +261,8 @@ final class MatrixEdges {
                 for (int y : factors) {
                     Desk desk = Desk.printed(a, b, new long[][] {{1, 2, 3}});
                     long[][] sum = Samples.longs(Reference.combine(Reference.of(a), x, Reference.of(b), y));
-                    due.done(Samples.sides(rows, columns) + ", " + x + " and " + y, desk, 0, () -> desk.combine(2, 0, x, 1, y), 2, sum);
+                    due.done(Samples.sides(rows, columns) + ", " + x + " and " + y, desk, 0,
+                        () -> desk.combine(2, 0, x, 1, y), 2, sum);
                 }
             }
         });
@@ -272,7 +278,8 @@ final class MatrixEdges {
 
     private void combineOne(long a, int x, long b, int y, long sum) {
         Desk desk = Desk.printed(new long[][] {{a}}, new long[][] {{b}});
-        due.done(a + " times " + x + " and " + b + " times " + y, desk, 0, () -> desk.combine(5, 0, x, 1, y), 5, new long[][] {{sum}});
+        due.done(a + " times " + x + " and " + b + " times " + y, desk, 0, () -> desk.combine(5, 0, x, 1, y), 5,
+            new long[][] {{sum}});
     }
 
     private void combineShape() {
@@ -285,7 +292,8 @@ final class MatrixEdges {
                 String what = Samples.sides(a[0], a[1]) + " and " + Samples.sides(b[0], b[1]);
                 for (int to = 0; to < 3; to++) {
                     int target = to;
-                    Desk x = Desk.printed(Samples.numbered(a[0], a[1]), Samples.numbered(b[0], b[1]), new long[][] {{4, 4}});
+                    Desk x = Desk.printed(Samples.numbered(a[0], a[1]), Samples.numbered(b[0], b[1]),
+                        new long[][] {{4, 4}});
                     due.still(what + ", to " + to, x, SHAPE, () -> x.combine(target, 0, 1, 1, 1));
                 }
             }
@@ -334,7 +342,8 @@ final class MatrixEdges {
                 long[][] b = Samples.times(Samples.numbered(middle, columns), -3);
                 Desk x = Desk.printed(a, b, new long[][] {{1, 2, 3}});
                 long[][] product = Samples.longs(Reference.multiply(Reference.of(a), Reference.of(b)));
-                due.done(Samples.sides(rows, middle) + ", by columns " + columns, x, 0, () -> x.multiply(2, 0, 1), 2, product);
+                due.done(Samples.sides(rows, middle) + ", by columns " + columns, x, 0, () -> x.multiply(2, 0, 1), 2,
+                    product);
             }
         });
         multiplyOne(Samples.row(TOP, TOP), Samples.column(TOP, -TOP), 0);
@@ -360,7 +369,8 @@ final class MatrixEdges {
                 String what = Samples.sides(a[0], a[1]) + " and " + Samples.sides(b[0], b[1]);
                 for (int to = 0; to < 3; to++) {
                     int target = to;
-                    Desk x = Desk.printed(Samples.numbered(a[0], a[1]), Samples.numbered(b[0], b[1]), new long[][] {{4, 4}});
+                    Desk x = Desk.printed(Samples.numbered(a[0], a[1]), Samples.numbered(b[0], b[1]),
+                        new long[][] {{4, 4}});
                     due.still(what + ", to " + to, x, SHAPE, () -> x.multiply(target, 0, 1));
                 }
             }
@@ -425,7 +435,8 @@ final class MatrixEdges {
             Samples.eachShape((otherRows, otherColumns) -> {
                 Desk y = Desk.with(new long[rows][columns], new long[otherRows][otherColumns]);
                 boolean alike = rows == otherRows && columns == otherColumns;
-                due.number(what + ", 0 alone, and " + Samples.sides(otherRows, otherColumns), y.same(0, 1) ? 1 : 0, alike ? 1 : 0);
+                due.number(what + ", 0 alone, and " + Samples.sides(otherRows, otherColumns), y.same(0, 1) ? 1 : 0,
+                    alike ? 1 : 0);
             });
         });
         sameWhateverStoodThere();

@@ -21,8 +21,8 @@ final class MinorTermEdges {
         edges.terms("THE RANK is the greatest k with D(k) not 0", this::greatestK);
         edges.terms("FACTOR k, from 1 to the rank, is D(k) divided by D(k-1)", this::quotients);
         edges.terms("(it divides factor k+1)", this::factorsDivide);
-        edges.terms("THE CHARACTERISTIC NUMBERS of n rows and columns: c0 to cn with det(t - A) = c0 + c1 t + .. + cn t^n, "
-            + "t standing along the diagonal", this::characteristicNumbers);
+        edges.terms("THE CHARACTERISTIC NUMBERS of n rows and columns: c0 to cn with det(t - A) = c0 + c1 t + .. "
+            + "+ cn t^n, t standing along the diagonal", this::characteristicNumbers);
     }
 
     /** One block of determinant 7 in every choice of rows and columns; all other minors of its size are 0. */
@@ -104,7 +104,8 @@ final class MinorTermEdges {
             Desk x = Desk.printed(new long[][] {{v}});
             due.printed("factor 1 is D(1) divided by 1", x, x.factor(0, 1), size);
             String sign = v < 0 ? "-1" : "1";
-            due.printed("the inverse of one number", x, x.inverse(0, 0, 0), size.equals("1") ? sign : sign + "/" + size);
+            due.printed("the inverse of one number", x, x.inverse(0, 0, 0), size.equals("1") ? sign : sign + "/"
+                + size);
             due.still("D(0) itself is not printed", x, NONE, () -> x.divisor(0, 0));
         }
     }
@@ -113,7 +114,8 @@ final class MinorTermEdges {
         Samples.eachShape((rows, columns) -> {
             for (int k = 0; k <= Math.min(rows, columns); k++) {
                 String what = Samples.sides(rows, columns) + ", rank ";
-                Desk x = Desk.printed(Samples.diagonal(rows, columns, k, -TOP), turnedAround(Samples.diagonal(rows, columns, k, 1)));
+                Desk x = Desk.printed(Samples.diagonal(rows, columns, k, -TOP),
+                    turnedAround(Samples.diagonal(rows, columns, k, 1)));
                 int rank = k;
                 due.still(what + k, x, rank, () -> x.rank(0));
                 due.still(what + k + ", from the last", x, rank, () -> x.rank(1));
@@ -150,7 +152,8 @@ final class MinorTermEdges {
     private void quotients() {
         factorsAre(Samples.diagonal(4, 6), "2", "12");
         factorsAre(Samples.diagonal(-1, -1, -1, -1, -1, -1), "1", "1", "1", "1", "1", "1");
-        factorsAre(Samples.diagonal(TOP, -TOP, TOP, -TOP, TOP, -TOP), "" + TOP, "" + TOP, "" + TOP, "" + TOP, "" + TOP, "" + TOP);
+        factorsAre(Samples.diagonal(TOP, -TOP, TOP, -TOP, TOP, -TOP), "" + TOP, "" + TOP, "" + TOP, "" + TOP, "" + TOP,
+            "" + TOP);
         factorsAre(Samples.diagonal(2, 6, 30, 0, 0, 0), "2", "6", "30");
         factorsAre(Samples.diagonal(0, 9, 0, 6, 0, 4), "1", "6", "36");
         factorsAre(Samples.diagonal(3, 5, 7, 11, 13, 17), "1", "1", "1", "1", "1", "255255");
@@ -158,7 +161,8 @@ final class MinorTermEdges {
         factorsAre(Samples.column(TOP, -TOP), "" + TOP);
         factorsAre(new long[3][4]);
         factorsAre(Samples.all(6, 6, TOP), "" + TOP);
-        factorsAre(Samples.diagonal(TOP - 1, TOP), "1", BigInteger.valueOf(TOP).multiply(BigInteger.valueOf(TOP - 1)).toString());
+        BigInteger product = BigInteger.valueOf(TOP).multiply(BigInteger.valueOf(TOP - 1));
+        factorsAre(Samples.diagonal(TOP - 1, TOP), "1", product.toString());
     }
 
     /** As many factors as the rank, and neither one before nor one behind. */

@@ -19,9 +19,11 @@ final class PrintEdges {
         edges.promise(13, "'-' below 0", this::determinantBelowZero);
         edges.promise(13, "then its size in decimal (0 is one character)", this::determinantInDecimal);
         edges.promise(13, "how many characters", this::howManyCharacters);
-        edges.promise(13, "SHAPE, and what was printed stays, when it has not as many rows as columns", this::determinantShape);
+        edges.promise(13, "SHAPE, and what was printed stays, when it has not as many rows as columns",
+            this::determinantShape);
         edges.promise(14, "Prints D(k) of matrix m", this::divisor);
-        edges.promise(14, "NONE, and what was printed stays, when there are no minors of k rows", this::divisorOfNoMinors);
+        edges.promise(14, "NONE, and what was printed stays, when there are no minors of k rows",
+            this::divisorOfNoMinors);
         edges.promise(14, "or k is below 1 (0, too)", this::divisorBelowOne);
         edges.promise(15, "Prints factor k of matrix m", this::factor);
         edges.promise(15, "NONE, and what was printed stays, when k is not from 1 to the rank", this::factorNone);
@@ -52,7 +54,8 @@ final class PrintEdges {
         due.prints("a new object's last matrix", x, () -> x.determinant(5), "0");
         for (int n = 1; n <= 6; n++) {
             determinantIs(n + " rows of 0", new long[n][n], "0");
-            determinantIs(n + " rows of the largest numbers", Samples.large(n, n), Reference.determinant(Reference.of(Samples.large(n, n))).toString());
+            determinantIs(n + " rows of the largest numbers", Samples.large(n, n),
+                Reference.determinant(Reference.of(Samples.large(n, n))).toString());
             determinantIs(n + " rows, all the same", Samples.all(n, n, TOP), n == 1 ? "" + TOP : "0");
             determinantIs(n + " rows, 1 along the diagonal", Samples.diagonal(n, n, n, 1), "1");
             determinantIs(n + " rows, one 0 along the diagonal", Samples.diagonal(n, n, n - 1, TOP), "0");
@@ -115,9 +118,12 @@ final class PrintEdges {
             long a = BigInteger.TEN.pow(power / 2).longValue();
             long b = BigInteger.TEN.pow(power - power / 2).longValue();
             BigInteger value = BigInteger.TEN.pow(power);
-            determinantIs("one below 10^" + power, new long[][] {{a, 1}, {1, b}}, value.subtract(BigInteger.ONE).toString());
-            determinantIs("one above 10^" + power, new long[][] {{a, 1}, {-1, b}}, value.add(BigInteger.ONE).toString());
-            determinantIs("one below -10^" + power, new long[][] {{-a, 1}, {1, b}}, value.negate().subtract(BigInteger.ONE).toString());
+            determinantIs("one below 10^" + power, new long[][] {{a, 1}, {1, b}},
+                value.subtract(BigInteger.ONE).toString());
+            determinantIs("one above 10^" + power, new long[][] {{a, 1}, {-1, b}},
+                value.add(BigInteger.ONE).toString());
+            determinantIs("one below -10^" + power, new long[][] {{-a, 1}, {1, b}},
+                value.negate().subtract(BigInteger.ONE).toString());
         }
         for (long figure = 1; figure <= 9; figure++) {
             determinantIs("one figure", new long[][] {{figure}}, String.valueOf(figure));
@@ -307,7 +313,8 @@ final class PrintEdges {
         for (int row = 0; row < 6; row++) {
             inverseIs("a power of the largest", chain, row, 0, BigInteger.valueOf(TOP).pow(row).toString());
         }
-        inverseIs("10^18", new long[][] {{1, 0, 0}, {-Samples.ROOT, 1, 0}, {0, -Samples.ROOT, 1}}, 2, 0, "1000000000000000000");
+        inverseIs("10^18", new long[][] {{1, 0, 0}, {-Samples.ROOT, 1, 0}, {0, -Samples.ROOT, 1}}, 2, 0,
+            "1000000000000000000");
     }
 
     private void inverseBelow() {
@@ -319,16 +326,20 @@ final class PrintEdges {
         inverseIs("the determinant is -1", new long[][] {{1, 2}, {1, 1}}, 0, 1, "2");
         inverseIs("0 has nothing below", Samples.diagonal(2, 2), 0, 1, "0");
         inverseIs("0 has nothing below", Samples.diagonal(-2, TOP), 1, 0, "0");
-        BigInteger[][] large = Reference.of(Samples.large(6, 6));
+        longestFractions();
+    }
+
+    private void longestFractions() {
+        BigInteger[][] numbers = Reference.of(Samples.longest());
         int longest = 0;
         for (int row = 0; row < 6; row++) {
             for (int column = 0; column < 6; column++) {
-                String text = Reference.inverse(large, row, column);
+                String text = Reference.inverse(numbers, row, column);
                 longest = Math.max(longest, text.length());
-                inverseIs("the longest", Samples.large(6, 6), row, column, text);
+                inverseIs("the longest", Samples.longest(), row, column, text);
             }
         }
-        due.truth("the test has long ones, " + longest, longest >= 190);
+        due.number("characters of the longest fraction", longest, 205);
     }
 
     private void inverseInLeastTerms() {
@@ -340,8 +351,9 @@ final class PrintEdges {
         inverseIs("-4/4 is whole", new long[][] {{2, 4}, {0, 2}}, 0, 1, "-1");
         inverseIs("large ones in common", Samples.diagonal(TOP, TOP), 0, 0, "1/999999999999999999");
         inverseIs("large ones in common", Samples.diagonal(TOP, TOP, TOP, TOP, TOP, TOP), 5, 5, "1/999999999999999999");
-        inverseIs("Euclid's longest way", new long[][] {{1, -Samples.LESSER_FIBONACCI}, {0, Samples.GREATER_FIBONACCI}}, 0, 1,
-            Samples.LESSER_FIBONACCI + "/" + Samples.GREATER_FIBONACCI);
+        long lesser = Samples.LESSER_FIBONACCI;
+        long greater = Samples.GREATER_FIBONACCI;
+        inverseIs("Euclid's longest way", new long[][] {{1, -lesser}, {0, greater}}, 0, 1, lesser + "/" + greater);
     }
 
     private void inverseShape() {
@@ -420,8 +432,8 @@ final class PrintEdges {
 
     private void characteristic() {
         for (int n = 1; n <= 6; n++) {
-            long[][][] all = {new long[n][n], Samples.diagonal(n, n, n, TOP), Samples.diagonal(n, n, n, -TOP), Samples.large(n, n),
-                Samples.numbered(n, n)};
+            long[][][] all = {new long[n][n], Samples.diagonal(n, n, n, TOP), Samples.diagonal(n, n, n, -TOP),
+                Samples.large(n, n), Samples.numbered(n, n)};
             for (long[][] a : all) {
                 BigInteger[] c = Reference.characteristic(Reference.of(a));
                 for (int k = 0; k <= n; k++) {

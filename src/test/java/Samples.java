@@ -110,7 +110,21 @@ final class Samples {
         return a;
     }
 
-    /** Numbers of the largest size with different last figures, below 0 above the diagonal: of full rank in every shape. */
+    /**
+     * Numbers of nearly the largest size, in whose inverse stand the longest fractions of all: a
+     * sign, 92 figures, a line and 111 figures.
+     */
+    static long[][] longest() {
+        long[][] a = widest(1);
+        for (int i = 0; i < 6; i++) {
+            for (int j = 0; j < 6; j++) {
+                a[i][j] *= TOP - (7 * i + j + i * j) % 13;
+            }
+        }
+        return a;
+    }
+
+    /** Numbers of the largest size, below 0 above the diagonal, with different last figures; the rank is full. */
     static long[][] large(int rows, int columns) {
         long[][] a = new long[rows][columns];
         for (int i = 0; i < rows; i++) {
@@ -121,7 +135,7 @@ final class Samples {
         return a;
     }
 
-    /** A block of k rows and columns with determinant 7, whose first k-1 have determinant 1, in these rows and columns. */
+    /** In these rows and columns a block with determinant 7; without its last row and column it has 1. */
     static long[][] block(int rows, int columns, int rowSet, int columnSet) {
         long[][] a = new long[rows][columns];
         int k = Integer.bitCount(rowSet);

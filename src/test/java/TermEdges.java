@@ -1,4 +1,5 @@
 import java.math.BigInteger;
+import java.util.function.ToLongFunction;
 
 /** The edges that the document's terms name for several promises at once: matrices, their numbers, what is refused. */
 final class TermEdges {
@@ -20,14 +21,17 @@ final class TermEdges {
         edges.terms("each with 1 to 6 rows and 1 to 6 columns", this::oneToSix);
         edges.terms("their numbers are of a size below 10^18", this::sizeOfNumbers);
         edges.terms("At first each is one row and column with 0", this::atFirst);
-        edges.terms("What has one number of rows and another one of columns than wanted is refused as SHAPE", this::shape);
+        edges.terms("What has one number of rows and another one of columns than wanted is refused as SHAPE",
+            this::shape);
         edges.terms("a result with a number of 10^18 or more in size as LARGE", this::large);
         edges.terms("then nothing changes", this::refusedChangesNothing);
         edges.terms("A result may take the place of what it is made of", this::ownPlace);
         edges.terms("What throws changes nothing", this::throwsChangesNothing);
         edges.terms("The constants: `NONE = -1`: There is none", () -> due.number("NONE", MatrixDesk.NONE, -1));
-        edges.terms("`SHAPE = -2`: Rows or columns do not go together", () -> due.number("SHAPE", MatrixDesk.SHAPE, -2));
-        edges.terms("`LARGE = -3`: A number of the result would be too large", () -> due.number("LARGE", MatrixDesk.LARGE, -3));
+        edges.terms("`SHAPE = -2`: Rows or columns do not go together",
+            () -> due.number("SHAPE", MatrixDesk.SHAPE, -2));
+        edges.terms("`LARGE = -3`: A number of the result would be too large",
+            () -> due.number("LARGE", MatrixDesk.LARGE, -3));
     }
 
     private void sixMatrices() {
@@ -108,45 +112,33 @@ final class TermEdges {
     /** Every shape beside every other one. */
     private void shape() {
         Samples.eachShape((rows, columns) -> {
-            Samples.eachShape((otherRows, otherColumns) -> {
-                String what = Samples.sides(rows, columns) + " and " + Samples.sides(otherRows, otherColumns);
-                boolean alike = rows == otherRows && columns == otherColumns;
-                due.number("combine, " + what + ", refused", combineShapes(what, rows, columns, otherRows, otherColumns), alike ? 0 : SHAPE);
-                boolean chained = columns == otherRows;
-                due.number("multiply, " + what + ", refused", multiplyShapes(what, rows, columns, otherRows, otherColumns), chained ? 0 : SHAPE);
-                boolean columnOfRows = otherColumns == 1 && otherRows == rows;
-                due.number("solve, " + what + ", refused", solveShapes(what, rows, columns, otherRows, otherColumns), columnOfRows ? 1 : SHAPE);
-            });
+            long[][] a = Samples.numbered(rows, columns);
+            Samples.eachShape((otherRows, otherColumns) -> together(a, Samples.numbered(otherRows, otherColumns)));
             if (rows != columns) {
-                notSquare(Samples.sides(rows, columns), Samples.numbered(rows, columns));
+                notSquare(Samples.sides(rows, columns), a);
             }
         });
     }
 
-    private long combineShapes(String what, int rows, int columns, int otherRows, int otherColumns) {
-        Desk x = Desk.printed(Samples.numbered(rows, columns), Samples.numbered(otherRows, otherColumns), new long[][] {{5, 6}});
-        if (rows != otherRows || columns != otherColumns) {
-            due.still("combine, " + what, x, SHAPE, () -> x.combine(2, 0, 1, 1, 1));
-            due.still("combine, factors 0, " + what, x, SHAPE, () -> x.combine(2, 0, 0, 1, 0));
-        }
-        return x.combine(2, 0, 1, 1, 1);
+    private void together(long[][] a, long[][] b) {
+        boolean alike = a.length == b.length && a[0].length == b[0].length;
+        boolean chained = a[0].length == b.length;
+        boolean oneColumn = b[0].length == 1 && b.length == a.length;
+        refusedUnless(alike, "combine", a, b, x -> x.combine(2, 0, 1, 1, 1));
+        refusedUnless(alike, "combine, factors 0", a, b, x -> x.combine(2, 0, 0, 1, 0));
+        refusedUnless(chained, "multiply", a, b, x -> x.multiply(2, 0, 1));
+        refusedUnless(oneColumn, "solve", a, b, x -> x.solve(2, 0, 1));
     }
 
-    private long multiplyShapes(String what, int rows, int columns, int otherRows, int otherColumns) {
-        Desk x = Desk.printed(Samples.numbered(rows, columns), Samples.numbered(otherRows, otherColumns), new long[][] {{5, 6}});
-        if (columns != otherRows) {
-            due.still("multiply, " + what, x, SHAPE, () -> x.multiply(2, 0, 1));
+    private void refusedUnless(boolean wanted, String call, long[][] a, long[][] b, ToLongFunction<Desk> asked) {
+        String first = Samples.sides(a.length, a[0].length);
+        String what = call + ", " + first + " and " + Samples.sides(b.length, b[0].length);
+        Desk x = Desk.printed(a, b, new long[][] {{5, 6}});
+        if (wanted) {
+            due.truth(what + ", is not refused", asked.applyAsLong(x) >= 0);
+        } else {
+            due.still(what, x, SHAPE, () -> asked.applyAsLong(x));
         }
-        return x.multiply(2, 0, 1);
-    }
-
-    /** With 0 alone there is a solution wherever the shapes go together. */
-    private long solveShapes(String what, int rows, int columns, int otherRows, int otherColumns) {
-        Desk x = Desk.printed(Samples.numbered(rows, columns), new long[otherRows][otherColumns], new long[][] {{5, 6}});
-        if (otherColumns != 1 || otherRows != rows) {
-            due.still("solve, " + what, x, SHAPE, () -> x.solve(2, 0, 1));
-        }
-        return x.solve(2, 0, 1);
     }
 
     private void notSquare(String what, long[][] numbers) {
@@ -178,7 +170,8 @@ final class TermEdges {
         Desk x = Desk.printed(Samples.one(6, 6, row, column, TOP), Samples.one(6, 6, row, column, 1));
         due.still(what + ", 10^18", x, LARGE, () -> x.combine(2, 0, sign, 1, sign));
         Desk y = Desk.printed(Samples.one(6, 6, row, column, TOP - 1), Samples.one(6, 6, row, column, 1));
-        due.done(what + ", one less", y, 0, () -> y.combine(2, 0, sign, 1, sign), 2, Samples.one(6, 6, row, column, sign * TOP));
+        due.done(what + ", one less", y, 0, () -> y.combine(2, 0, sign, 1, sign), 2,
+            Samples.one(6, 6, row, column, sign * TOP));
     }
 
     /** A product of two numbers, at each place inside the row and the column. */
@@ -188,7 +181,8 @@ final class TermEdges {
             Desk x = Desk.printed(Samples.one(6, 6, row, i, ROOT), Samples.one(6, 6, i, column, sign * ROOT));
             due.still(what + ", 10^18", x, LARGE, () -> x.multiply(2, 0, 1));
             Desk y = Desk.printed(Samples.one(6, 6, row, i, ROOT - 1), Samples.one(6, 6, i, column, sign * (ROOT + 1)));
-            due.done(what + ", one less", y, 0, () -> y.multiply(2, 0, 1), 2, Samples.one(6, 6, row, column, sign * TOP));
+            due.done(what + ", one less", y, 0, () -> y.multiply(2, 0, 1), 2,
+                Samples.one(6, 6, row, column, sign * TOP));
         }
     }
 
@@ -218,7 +212,8 @@ final class TermEdges {
         Desk x = Desk.printed(new long[][] {{1, 1, -sign}, {0, 1, sign * TOP}});
         due.still("form, behind leads, 10^18 of sign " + -sign, x, LARGE, () -> x.hermite(1, 0));
         Desk y = Desk.printed(new long[][] {{1, 1, 0}, {0, 1, sign * TOP}});
-        due.done("form, behind leads, one less", y, 2, () -> y.hermite(1, 0), 1, new long[][] {{1, 0, -sign * TOP}, {0, 1, sign * TOP}});
+        due.done("form, behind leads, one less", y, 2, () -> y.hermite(1, 0), 1,
+            new long[][] {{1, 0, -sign * TOP}, {0, 1, sign * TOP}});
     }
 
     /** Each number of the kernel is the one before, times a number: just 10^18 from one place on, or one less. */
