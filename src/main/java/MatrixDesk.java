@@ -330,11 +330,7 @@ public final class MatrixDesk {
 
     /** Prints left over right, right not being 0, in least terms. */
     private void printFraction() {
-        if (right.below) {
-            right.negate();
-            left.negate();
-        }
-        boolean below = left.below;
+        boolean below = left.below != right.below && !left.isZero();
         division.lowerTerms(left, right);
         print.clear();
         if (below) {

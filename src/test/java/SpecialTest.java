@@ -177,7 +177,8 @@ public final class SpecialTest {
                 NONE);
             Desk z = desk();
             boolean within = k >= 1 && k <= rank;
-            printed("factor " + k, z, () -> z.factor(0, k), within ? Reference.factors(numbers)[k - 1].toString() : null, NONE);
+            String factor = within ? Reference.factors(numbers)[k - 1].toString() : null;
+            printed("factor " + k, z, () -> z.factor(0, k), factor, NONE);
             Desk w = desk();
             boolean power = square && k >= 0 && k <= a.length;
             String c = power ? Reference.characteristic(numbers)[k].toString() : null;
