@@ -6,17 +6,21 @@ final class Due {
     static final Class<IndexOutOfBoundsException> INDEX = IndexOutOfBoundsException.class;
     static final Class<IllegalArgumentException> ARGUMENT = IllegalArgumentException.class;
 
+    private static final int MOST = 20;
+
     private final String test;
     private String about = "";
+    private int told;
     private int wrong;
 
     Due(String test) {
         this.test = test;
     }
 
-    /** What stands before all that is told from now on. */
+    /** What stands before all that is told from now on; of each not more than some lines are told. */
     void about(String words) {
         about = words;
+        told = 0;
     }
 
     void number(String what, long got, long want) {
@@ -124,7 +128,8 @@ final class Due {
 
     private void tell(String what, String got, String want) {
         wrong++;
-        if (wrong <= 50) {
+        told++;
+        if (told <= MOST) {
             System.out.println(test + ": " + about + what + " answered " + got + ", due is " + want);
         }
     }

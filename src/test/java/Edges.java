@@ -19,7 +19,11 @@ final class Edges {
     void sentence(String section, String words, Runnable test) {
         document.quote(section, words);
         due.about(section + ", '" + words + "': ");
-        test.run();
+        try {
+            test.run();
+        } catch (RuntimeException | AssertionError e) {
+            due.text("the test itself ended by", e.toString(), "its last line");
+        }
         due.about("");
     }
 }
