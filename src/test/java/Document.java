@@ -23,7 +23,7 @@ final class Document {
         for (String line : lines(file)) {
             if (line.startsWith("## ")) {
                 name = line.substring(3).trim();
-            } else if (isAsked(name, line)) {
+            } else if (isAsked(name)) {
                 sections.merge(shortName(name), withoutHead(name, line), (a, b) -> a + " " + b);
             }
         }
@@ -37,9 +37,9 @@ final class Document {
         }
     }
 
-    private static boolean isAsked(String section, String line) {
-        boolean limit = section.equals("What it is") && line.startsWith("An object is used");
-        return limit || section.equals("Terms") || section.startsWith("Promise ");
+    /** FaceTest looks at the public face, and what is not promised has no test. */
+    private static boolean isAsked(String section) {
+        return section.equals("What it is") || section.equals("Terms") || section.startsWith("Promise ");
     }
 
     private static String shortName(String section) {

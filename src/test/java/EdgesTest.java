@@ -1,14 +1,15 @@
 import java.nio.file.Path;
 
 /**
- * Every sentence of the document's promises, of its terms, and of the number of calls: each has a
- * test of its own, at the edges that it names. Each is told by its words, and no words may be left.
+ * Every sentence of the document, from what it is to its last promise, has a test of its own, at
+ * the edges that it names. Each is told by its words, and no words may be left.
  */
 public final class EdgesTest {
     public static void main(String[] args) {
         Due due = new Due("EdgesTest");
         Document document = new Document(due, Path.of("..", "shared", "DOC.md"));
         Edges edges = new Edges(due, document);
+        new ExactEdges(edges).run();
         new CallEdges(edges).run();
         new TermEdges(edges).run();
         new MinorTermEdges(edges).run();

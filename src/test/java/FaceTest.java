@@ -1,15 +1,18 @@
+import java.io.IOException;
 import java.lang.reflect.Constructor;
 import java.lang.reflect.Executable;
 import java.lang.reflect.Field;
 import java.lang.reflect.Method;
 import java.lang.reflect.Modifier;
+import java.nio.file.Files;
+import java.nio.file.Path;
 import java.util.ArrayList;
 import java.util.HashSet;
 import java.util.List;
 import java.util.Set;
 import java.util.TreeSet;
 
-/** The face is the document's and no more, and the classes inside keep to LANGUAGE.md's rules 1, 2, 5, 6 and 11. */
+/** The face is the document's and no more, and all members keep to LANGUAGE.md's rules 1, 5, 6 and 11. */
 public final class FaceTest {
     private static final String[] FACE = {
         "static int NONE", "static int SHAPE", "static int LARGE", "MatrixDesk()",
@@ -21,7 +24,7 @@ public final class FaceTest {
         "boolean same(int, int)", "int check(int)"};
     private static final Due due = new Due("FaceTest");
 
-    public static void main(String[] args) {
+    public static void main(String[] args) throws IOException {
         Class<?> desk = MatrixDesk.class;
         due.truth("the class is public and final",
             Modifier.isPublic(desk.getModifiers()) && Modifier.isFinal(desk.getModifiers()));
@@ -32,10 +35,6 @@ public final class FaceTest {
                 names.add(method.getName());
             }
         }
-        for (Method method : desk.getDeclaredMethods()) {
-            due.truth(method + " bears no name of the face",
-                !Modifier.isPrivate(method.getModifiers()) || !names.contains(method.getName()));
-        }
         due.truth("some twelve classes at most", desk.getDeclaredClasses().length <= 12);
         List<Class<?>> all = new ArrayList<>(List.of(desk.getDeclaredClasses()));
         for (Class<?> inside : all) {
@@ -43,8 +42,35 @@ public final class FaceTest {
                 !Modifier.isPublic(inside.getModifiers()) && !Modifier.isProtected(inside.getModifiers()));
         }
         all.add(desk);
-        all.forEach(FaceTest::members);
+        for (Class<?> type : all) {
+            members(type);
+            for (Method method : type.getDeclaredMethods()) {
+                due.truth(method + " bears no name of the face",
+                    !Modifier.isPrivate(method.getModifiers()) || !names.contains(method.getName()));
+            }
+        }
+        heads();
         due.end();
+    }
+
+    /** The program has each head as the document writes it, with the names of what it takes and what it throws. */
+    private static void heads() throws IOException {
+        String program = Files.readString(Path.of("src", "main", "java", "MatrixDesk.java")).replaceAll("\\s+", " ");
+        List<String> face = new ArrayList<>();
+        List<String> promises = new ArrayList<>();
+        for (String line : Files.readAllLines(Path.of("..", "shared", "DOC.md"))) {
+            if (line.matches("    public .*;")) {
+                face.add(line.contains("=") ? line.trim() : line.trim().replace(";", " {"));
+            } else if (line.matches("`[^`=]*\\([^`]*`: .*")) {
+                promises.add("public " + line.substring(1, line.indexOf('`', 1)) + " {");
+            }
+        }
+        due.number("heads in the document's face", face.size(), FACE.length);
+        due.number("heads in the document's promises", promises.size(), 20);
+        face.addAll(promises);
+        for (String head : face) {
+            due.truth("the program has: " + head, program.contains(" " + head));
+        }
     }
 
     /** What is not private, written as in the list above. */

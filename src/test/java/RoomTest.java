@@ -3,8 +3,11 @@ import java.lang.management.ManagementFactory;
 /** All calls of an object stay within the room of one run, the dearest ones with the largest numbers too. */
 public final class RoomTest {
     private static final int CALLS = 512;
-    /** The room has 7.3 million fields and elements, most of which take 4 bytes at least. */
-    private static final long BYTES = 4 * 7_300_000L;
+    /**
+     * The room has 600,000 objects and 7.3 million fields and elements. An object takes 16 bytes at
+     * least and a field or element one, so with so many bytes a run keeps to both.
+     */
+    private static final long BYTES = 7_300_000L;
     private static final Due due = new Due("RoomTest");
 
     public static void main(String[] args) {
